@@ -22,6 +22,14 @@ final class Checks {
         due(what, got ? 1 : 0, want ? 1 : 0);
     }
 
+    static void holds(String what, boolean held) {
+        made++;
+        if (!held) {
+            wrong++;
+            System.out.println("does not hold: " + what);
+        }
+    }
+
     static void throwsArgument(String what, Call call) {
         throwsDue(what, call, IllegalArgumentException.class);
     }
